@@ -1,0 +1,172 @@
+import java.io.DataInputStream;
+import java.io.IOException;
+import java.lang.management.ManagementFactory;
+import java.lang.reflect.Constructor;
+import java.lang.reflect.Field;
+import java.lang.reflect.Method;
+import java.lang.reflect.Modifier;
+import java.nio.file.Files;
+import java.nio.file.Path;
+import java.util.ArrayList;
+import java.util.HashSet;
+import java.util.List;
+import java.util.Set;
+import java.util.TreeSet;
+
+/** The rules of LANGUAGE.md that the class files and the source show, and the room that a run takes. */
+public final class LanguageTest {
+    private static final Path SOURCE = Path.of("src/main/java/Pagerloom.java");
+
+    // Rule 4 and rule 6: all that the class may name outside of itself.
+    private static final Set<String> LIBRARY = Set.of(
+            "java/lang/Object.<init>", "java/util/Arrays.fill", "java/lang/Math.max", "java/lang/Math.min",
+            "java/lang/IllegalArgumentException.<init>", "java/lang/IllegalStateException.<init>",
+            "java/lang/IndexOutOfBoundsException.<init>", "java/util/NoSuchElementException.<init>");
+
+    private static final String[] FACE = {
+        "int addPerson()", "int addRule(int,int,int)", "int alarm(int)", "int alarms()",
+        "int answer(int,boolean)", "long ask(int,int)", "long askByCodes(int,int)", "int clearText()",
+        "int drop(int)", "int errorAt()", "int holder(int)", "int inWindow(int)",
+        "int log(int,int,int,int)", "int next()", "int nights(int)", "int now()",
+        "boolean off(int,int)", "int owes(int,int)", "int pass(int)", "int planned(int)",
+        "int rises(int)", "int risesAnew(int)", "int silence(int,int,int)", "void swap(int,int)",
+        "int type(char)", "int waiting()", "int woken(int)", "int wokenAt(int)",
+        "boolean wouldRise(int)",
+    };
+
+    public static void main(String[] args) throws IOException {
+        face();
+        List<Class<?>> classes = new ArrayList<>(List.of(Pagerloom.class.getDeclaredClasses()));
+        Check.due("twelve classes at most", true, classes.size() + 1 <= 12);
+        classes.add(Pagerloom.class);
+        for (Class<?> inside : classes) {
+            members(inside);
+            names(inside);
+        }
+        source();
+        room();
+        Check.end();
+    }
+
+    private static void face() {
+        Set<String> due = new TreeSet<>(List.of(FACE));
+        Set<String> got = new TreeSet<>();
+        Set<String> names = new HashSet<>();
+        for (Method method : Pagerloom.class.getDeclaredMethods()) {
+            if (Modifier.isPublic(method.getModifiers())) {
+                String all = method.toString().replaceAll(" throws .*", "");
+                got.add(all.replace("public ", "").replace("Pagerloom.", ""));
+                names.add(method.getName());
+            }
+        }
+        Check.due("the face " + got, true, due.equals(got));
+        for (Method method : Pagerloom.class.getDeclaredMethods()) {
+            int modifiers = method.getModifiers();
+            Check.due(method + " is public or private", true,
+                    Modifier.isPublic(modifiers) || Modifier.isPrivate(modifiers));
+            Check.due(method + " bears no public name", false,
+                    Modifier.isPrivate(modifiers) && names.contains(method.getName()));
+        }
+        for (Field field : Pagerloom.class.getDeclaredFields()) {
+            Check.due(field + " is private or NONE", true,
+                    Modifier.isPrivate(field.getModifiers()) || field.getName().equals("NONE"));
+        }
+        Constructor<?>[] constructors = Pagerloom.class.getDeclaredConstructors();
+        Check.due("one constructor", 1, constructors.length);
+        Check.due("it takes nothing", 0, constructors[0].getParameterCount());
+        Check.due("final", true, Modifier.isFinal(Pagerloom.class.getModifiers()));
+    }
+
+    private static void members(Class<?> inside) {
+        int fields = 0;
+        for (Field field : inside.getDeclaredFields()) {
+            boolean isStatic = Modifier.isStatic(field.getModifiers());
+            fields += isStatic ? 0 : 1;
+            Check.due(field + " is final if static", true,
+                    !isStatic || Modifier.isFinal(field.getModifiers()));
+        }
+        Check.due(inside + " has twenty fields at most", true, fields <= 20);
+        for (Method method : inside.getDeclaredMethods()) {
+            Check.due(method + " has seven parameters at most", true, method.getParameterCount() <= 7);
+        }
+        int modifiers = inside.getModifiers();
+        Check.due(inside + " is the public one, or static and not public", true,
+                inside == Pagerloom.class || Modifier.isStatic(modifiers) && !Modifier.isPublic(modifiers));
+    }
+
+    /** Reads the pool of names of a class file; every method of others must be in the library. */
+    private static void names(Class<?> inside) throws IOException {
+        try (DataInputStream in = new DataInputStream(
+                inside.getResourceAsStream(inside.getName() + ".class"))) {
+            in.skipBytes(8);
+            int count = in.readUnsignedShort();
+            int[][] refs = new int[count][];
+            String[] texts = new String[count];
+            for (int i = 1; i < count; i++) {
+                int tag = in.readUnsignedByte();
+                Check.due(inside + " calls no code made at run time", false, tag == 18 || tag == 17);
+                if (tag == 1) {
+                    texts[i] = in.readUTF();
+                } else if (tag == 5 || tag == 6) {
+                    in.skipBytes(8);
+                    i++;
+                } else if (tag == 7 || tag == 8) {
+                    refs[i] = new int[] {tag, in.readUnsignedShort()};
+                } else if (tag == 3 || tag == 4) {
+                    in.skipBytes(4);
+                } else if (tag >= 9 && tag <= 12) {
+                    refs[i] = new int[] {tag, in.readUnsignedShort(), in.readUnsignedShort()};
+                } else {
+                    Check.due(inside + " has a known tag " + tag, true, false);
+                }
+            }
+            for (int[] ref : refs) {
+                if (ref != null && (ref[0] == 9 || ref[0] == 10 || ref[0] == 11)) {
+                    String owner = texts[refs[ref[1]][1]];
+                    String name = owner + "." + texts[refs[ref[2]][1]];
+                    boolean isOwn = owner.startsWith("Pagerloom") || owner.startsWith("[LPagerloom");
+                    Check.due(inside + " may name " + name, true, isOwn || LIBRARY.contains(name));
+                }
+            }
+        }
+    }
+
+    private static void source() throws IOException {
+        String text = Files.readString(SOURCE);
+        for (int i = 0; i < text.length(); i++) {
+            char c = text.charAt(i);
+            Check.due("a sign of 1 to 127 at " + i, true, c >= 1 && c <= 127);
+        }
+        for (String word : new String[] {"synchronized", "assert ", "finally", "try {", "catch", "->",
+            "::", "package ", "while (true)", "for (;;)", "double", "float"}) {
+            Check.due("the source has no " + word, false, text.contains(word));
+        }
+        int from = 0;
+        String[] lines = text.split("\n");
+        for (int i = 0; i < lines.length; i++) {
+            if (lines[i].matches("( {4}| {8})[a-zA-Z].*\\) ?(throws .*)?\\{")
+                    || lines[i].matches("( {4}| {8})[a-zA-Z].*\\)$")) {
+                from = i;
+            } else if (lines[i].matches("( {4}| {8})}") && from > 0) {
+                Check.due("sixty lines at most from line " + (from + 1), true, i - from < 60);
+                from = 0;
+            }
+            Check.due("a hundred chars at most in line " + (i + 1), true, lines[i].length() <= 100);
+        }
+    }
+
+    /** The dearest run in objects: a tree of forty chars made anew in each call. */
+    private static void room() {
+        com.sun.management.ThreadMXBean threads =
+                (com.sun.management.ThreadMXBean) ManagementFactory.getThreadMXBean();
+        long before = threads.getCurrentThreadAllocatedBytes();
+        Pagerloom desk = new Pagerloom();
+        Check.text(desk, "1+".repeat(19) + "11");
+        for (int i = 0; i < 512; i++) {
+            desk.ask(0, 0);
+        }
+        long bytes = threads.getCurrentThreadAllocatedBytes() - before;
+        // A tenth of the room of 7.3 million fields, of four bytes each.
+        Check.due("a run makes less than 2.9 MB: " + bytes, true, bytes < 2900000);
+    }
+}
