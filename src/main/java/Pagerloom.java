@@ -555,22 +555,43 @@ public final class Pagerloom {
         }
     }
 
-    /** What an aggregate has seen: a field's values, in the order of the logs. */
+    /** What an aggregate has seen of a field's values, in the order of the logs. */
     private static final class Tally {
         private final int[] seen = new int[MOST_LOGS];
         private int count = 0;
-        // All zero between two results.
+        private long sum = 0;
+        private int least = 0;
+        private int greatest = 0;
+        private int unlike = 0;
+        // How often each value was seen, the least value of all first.
         private final int[] times = new int[2 * GREATEST_VALUE + 1];
 
         void clear() {
+            for (int i = 0; i < count && i < seen.length; i++) {
+                int at = seen[i] + GREATEST_VALUE;
+                if (at >= 0 && at < times.length) {
+                    times[at] = 0;
+                }
+            }
             count = 0;
+            sum = 0;
+            least = 0;
+            greatest = 0;
+            unlike = 0;
         }
 
         void add(int value) {
-            if (isIn(value, -GREATEST_VALUE, GREATEST_VALUE) && isIn(count, 0, MOST_LOGS - 1)) {
-                seen[count] = value;
-                count++;
+            int at = value + GREATEST_VALUE;
+            if (at < 0 || at >= times.length || count < 0 || count >= seen.length) {
+                return;
             }
+            sum += value;
+            least = count == 0 ? value : Math.min(least, value);
+            greatest = count == 0 ? value : Math.max(greatest, value);
+            unlike += times[at] == 0 ? 1 : 0;
+            times[at]++;
+            seen[count] = value;
+            count++;
         }
 
         long result(int kind) {
@@ -578,13 +599,13 @@ public final class Pagerloom {
                 case 'n':
                     return count;
                 case 's':
-                    return sum();
+                    return sum;
                 case 'm':
-                    return extreme(-1);
+                    return least;
                 case 'x':
-                    return extreme(1);
+                    return greatest;
                 case 'd':
-                    return unlike();
+                    return unlike;
                 case 't':
                     return mostOften();
                 default:
@@ -592,65 +613,17 @@ public final class Pagerloom {
             }
         }
 
-        private long sum() {
-            long sum = 0;
-            for (int i = 0; i < count && i < seen.length; i++) {
-                sum += seen[i];
-            }
-            return sum;
-        }
-
-        /** The greatest value if the direction is 1, the least one if it is -1. */
-        private long extreme(int direction) {
-            long extreme = 0;
-            for (int i = 0; i < count && i < seen.length; i++) {
-                if (i == 0 || direction * (seen[i] - extreme) > 0) {
-                    extreme = seen[i];
-                }
-            }
-            return extreme;
-        }
-
-        private long unlike() {
-            long unlike = 0;
-            for (int i = 0; i < count && i < seen.length; i++) {
-                int at = seen[i] + GREATEST_VALUE;
-                if (isIn(at, 0, times.length - 1)) {
-                    unlike += times[at] == 0 ? 1 : 0;
-                    times[at]++;
-                }
-            }
-            forgetTimes();
-            return unlike;
-        }
-
         private long mostOften() {
-            for (int i = 0; i < count && i < seen.length; i++) {
-                int at = seen[i] + GREATEST_VALUE;
-                if (isIn(at, 0, times.length - 1)) {
-                    times[at]++;
-                }
-            }
             int most = 0;
             long value = 0;
             for (int i = 0; i < count && i < seen.length; i++) {
                 int at = seen[i] + GREATEST_VALUE;
-                if (isIn(at, 0, times.length - 1) && times[at] > most) {
+                if (at >= 0 && at < times.length && times[at] > most) {
                     most = times[at];
                     value = seen[i];
                 }
             }
-            forgetTimes();
             return value;
-        }
-
-        private void forgetTimes() {
-            for (int i = 0; i < count && i < seen.length; i++) {
-                int at = seen[i] + GREATEST_VALUE;
-                if (isIn(at, 0, times.length - 1)) {
-                    times[at] = 0;
-                }
-            }
         }
     }
 
@@ -942,7 +915,6 @@ public final class Pagerloom {
             }
             if (isField(sign)) {
                 put(sign);
-                isBehindPart = true;
             } else if (sign == '(') {
                 push(sign);
             } else if (sign == ')') {

@@ -9,6 +9,7 @@ public final class QuestionTest {
         mostOftenGoesByTheOrder();
         hourOfTheDay();
         hoursOfTheLogs();
+        bothWaysStandAlone();
         wrongHours();
         wrongText();
         fullDesk();
@@ -237,6 +238,25 @@ public final class QuestionTest {
         both("s(v)", 2, 999, 4);
         both("s(v)", 1000, 1000, 8);
         both("s(v)", 1, 1000, 30);
+    }
+
+    /** What the one way went by is not what the other one goes by. */
+    private static void bothWaysStandAlone() {
+        desk = new Pagerloom();
+        desk.pass(2);
+        desk.log(0, 0, 1, 0);
+        desk.log(0, 0, 2, 1);
+        desk.log(0, 0, 4, 2);
+        Check.text(desk, "s(v)");
+        Check.due("ask", 1, desk.ask(0, 0));
+        Check.due("askByCodes", 6, desk.askByCodes(1, 2));
+        Check.due("ask", 2, desk.ask(1, 1));
+        Check.due("askByCodes", 7, desk.askByCodes(0, 2));
+        desk.clearText();
+        Check.state("askByCodes of an empty text", () -> desk.askByCodes(0, 2));
+        Check.text(desk, "n()");
+        Check.due("askByCodes of another text", 2, desk.askByCodes(0, 1));
+        Check.due("ask of another text", 3, desk.ask(0, 2));
     }
 
     private static void wrongHours() {

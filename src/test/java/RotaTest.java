@@ -14,6 +14,8 @@ public final class RotaTest {
         owesAndPays();
         debtsWait();
         debtOrder();
+        paidDebtsAreGone();
+        debtsToTwo();
         debtsOnlyInNights();
         Check.end();
     }
@@ -310,6 +312,54 @@ public final class RotaTest {
         Check.due("the first whose debtor is not off", 0, desk.holder(6));
         Check.due("the first debt then", 1, desk.holder(9));
         Check.due("the third debt then", 1, desk.holder(12));
+    }
+
+    private static void paidDebtsAreGone() {
+        Pagerloom desk = nightAlarm();
+        desk.answer(0, true);
+        desk.drop(0);
+        desk.swap(6, 7);
+        desk.swap(9, 10);
+        Check.passTo(desk, 71);
+        Check.due("paid", 0, desk.holder(6));
+        Check.due("planned", 1, desk.planned(9));
+        Check.due("next, nothing owed", 1, desk.next());
+        Check.rule(desk, "1", 2, 1, 72);
+        desk.pass(1);
+        Check.due("nothing owed", 1, desk.holder(9));
+        Check.due("one debt then", 1, desk.answer(1, true));
+        Check.due("the new one", 1, desk.owes(2, 1));
+        Check.due("not the paid one", 0, desk.owes(0, 1));
+    }
+
+    /** The first debt is to 1, the second one to 2, the third one to 1; that to 2 is paid first. */
+    private static void debtsToTwo() {
+        Pagerloom desk = Check.withPeople(3);
+        desk.swap(3, 4);
+        desk.swap(6, 8);
+        desk.swap(9, 11);
+        desk.swap(12, 13);
+        desk.swap(15, 16);
+        Check.passTo(desk, 23);
+        Check.rule(desk, "1", 0, 1, 23);
+        Check.rule(desk, "1", 2, 1, 72);
+        desk.pass(1);
+        Check.due("0 owes 1", 1, desk.answer(0, true));
+        Check.passTo(desk, 48);
+        Check.due("woken in the night 6", 2, desk.woken(2));
+        Check.due("0 owes 2", 2, desk.answer(2, true));
+        Check.due("2 owes 1", 3, desk.answer(1, true));
+        desk.drop(0);
+        desk.drop(1);
+        Check.passTo(desk, 72);
+        Check.due("the second debt is paid", 0, desk.holder(9));
+        Check.due("0 owes 2 nothing", 0, desk.owes(0, 2));
+        Check.due("0 owes 1", 1, desk.owes(0, 1));
+        Check.due("2 owes 1", 1, desk.owes(2, 1));
+        Check.passTo(desk, 120);
+        Check.due("the first debt is paid", 0, desk.holder(12));
+        Check.due("the third debt is paid", 2, desk.holder(15));
+        Check.due("nobody owes 1", 0, desk.owes(0, 1) + desk.owes(2, 1));
     }
 
     private static void debtsOnlyInNights() {
