@@ -23,16 +23,7 @@ public final class LanguageTest {
             "java/lang/IllegalArgumentException.<init>", "java/lang/IllegalStateException.<init>",
             "java/lang/IndexOutOfBoundsException.<init>", "java/util/NoSuchElementException.<init>");
 
-    private static final String[] FACE = {
-        "int addPerson()", "int addRule(int,int,int)", "int alarm(int)", "int alarms()",
-        "int answer(int,boolean)", "long ask(int,int)", "long askByCodes(int,int)", "int clearText()",
-        "int drop(int)", "int errorAt()", "int holder(int)", "int inWindow(int)",
-        "int log(int,int,int,int)", "int next()", "int nights(int)", "int now()",
-        "boolean off(int,int)", "int owes(int,int)", "int pass(int)", "int planned(int)",
-        "int rises(int)", "int risesAnew(int)", "int silence(int,int,int)", "void swap(int,int)",
-        "int type(char)", "int waiting()", "int woken(int)", "int wokenAt(int)",
-        "boolean wouldRise(int)",
-    };
+    private static final Path DOCUMENT = Path.of("../shared/DOC.md");
 
     public static void main(String[] args) throws IOException {
         face();
@@ -48,18 +39,34 @@ public final class LanguageTest {
         Check.end();
     }
 
-    private static void face() {
-        Set<String> due = new TreeSet<>(List.of(FACE));
+    /** The methods of the document's face, as "int type(char) throws java.lang.A,java.lang.B". */
+    private static Set<String> dueFace() throws IOException {
+        Set<String> due = new TreeSet<>();
+        for (String line : Files.readAllLines(DOCUMENT)) {
+            if (line.matches("    public [a-z]+ [a-zA-Z]+\\(.*;")) {
+                String[] halves = line.replaceAll("^    public |;$", "").split(" throws ");
+                String call = halves[0].replaceAll(" [a-zA-Z]+(?=[,)])", "").replace(", ", ",");
+                String thrown = halves.length < 2 ? ""
+                        : halves[1].replaceAll("(?<![.a-zA-Z])(?=[A-Z])", "java.lang.").replace(", ", ",");
+                due.add(call + " throws " + thrown);
+            }
+        }
+        return due;
+    }
+
+    private static void face() throws IOException {
+        Set<String> due = dueFace();
+        Check.due("methods of the document's face", 29, due.size());
         Set<String> got = new TreeSet<>();
         Set<String> names = new HashSet<>();
         for (Method method : Pagerloom.class.getDeclaredMethods()) {
             if (Modifier.isPublic(method.getModifiers())) {
-                String all = method.toString().replaceAll(" throws .*", "");
-                got.add(all.replace("public ", "").replace("Pagerloom.", ""));
+                String all = method.toString().replace("public ", "").replace("Pagerloom.", "");
+                got.add(all.contains(" throws ") ? all : all + " throws ");
                 names.add(method.getName());
             }
         }
-        Check.due("the face " + got, true, due.equals(got));
+        Check.due("the face", due.toString(), got.toString());
         for (Method method : Pagerloom.class.getDeclaredMethods()) {
             int modifiers = method.getModifiers();
             Check.due(method + " is public or private", true,
@@ -160,9 +167,8 @@ public final class LanguageTest {
         com.sun.management.ThreadMXBean threads =
                 (com.sun.management.ThreadMXBean) ManagementFactory.getThreadMXBean();
         long before = threads.getCurrentThreadAllocatedBytes();
-        Pagerloom desk = new Pagerloom();
-        Check.text(desk, "1+".repeat(19) + "11");
-        for (int i = 0; i < 512; i++) {
+        Desk desk = new Desk().write("1+".repeat(19) + "11");
+        while (desk.calls() < 512) {
             desk.ask(0, 0);
         }
         long bytes = threads.getCurrentThreadAllocatedBytes() - before;

@@ -6,10 +6,12 @@ public final class ModelTest {
     private static final int RUNS = 600;
     private static final int CALLS = 512;
     private static final int TEXTS = 60000;
+    // Each takes forty chars and four calls at most.
+    private static final int TEXTS_A_DESK = 10;
 
     private final Random random;
     private final String name;
-    private final Pagerloom desk = new Pagerloom();
+    private final Desk desk = new Desk();
     private final Model model = new Model();
     private final int haste;
     private int calls = 0;
@@ -28,18 +30,13 @@ public final class ModelTest {
         Check.end();
     }
 
-    private static String outcome(LongSupplier call) {
-        try {
-            return "" + call.getAsLong();
-        } catch (RuntimeException e) {
-            return e.getClass().getName();
-        }
-    }
-
     private void same(String call, LongSupplier of, LongSupplier due) {
+        if (calls >= CALLS) {
+            return;
+        }
         calls++;
-        String want = outcome(due);
-        String got = outcome(of);
+        String want = Check.outcome(due);
+        String got = Check.outcome(of);
         Check.due(name + ", call " + calls + ", " + call + ": " + got + " for " + want, true,
                 want.equals(got));
     }
@@ -255,38 +252,41 @@ public final class ModelTest {
 
     // ---- texts
 
-    /** Many texts over one set of logs, whole ones and broken ones. */
+    /** Many texts, whole ones and broken ones, some over one set of logs, then over the next one. */
     private static void texts(Random random) {
-        Pagerloom desk = new Pagerloom();
-        Model model = new Model();
-        desk.pass(24);
-        model.pass(24);
-        desk.pass(16);
-        model.pass(16);
-        for (int i = 0; i < 25; i++) {
-            int part = random.nextInt(4);
-            int level = random.nextInt(6);
-            int value = random.nextInt(9) - 4;
-            int hour = random.nextInt(41);
-            desk.log(part, level, value, hour);
-            model.log(part, level, value, hour);
-        }
-        for (int i = 0; i < TEXTS; i++) {
-            String text = question(random);
-            Check.text(desk, text);
-            model.clearText();
-            for (char c : text.toCharArray()) {
-                model.type(c);
+        for (int i = 0; i < TEXTS / TEXTS_A_DESK; i++) {
+            Desk desk = new Desk().passTo(40);
+            Model model = new Model();
+            for (int hours : new int[] {24, 16}) {
+                model.pass(hours);
             }
-            Check.due("errorAt of " + text, model.errorAt(), desk.errorAt());
-            int from = random.nextInt(41);
-            int to = from + random.nextInt(41 - from);
-            String want = outcome(() -> model.ask(from, to));
-            String tree = outcome(() -> desk.ask(from, to));
-            String codes = outcome(() -> desk.askByCodes(from, to));
-            Check.due(text + " by tree " + tree + " for " + want, true, want.equals(tree));
-            Check.due(text + " by codes " + codes + " for " + want, true, want.equals(codes));
+            for (int log = 0; log < 25; log++) {
+                int part = random.nextInt(4);
+                int level = random.nextInt(6);
+                int value = random.nextInt(9) - 4;
+                int hour = random.nextInt(41);
+                desk.log(part, level, value, hour);
+                model.log(part, level, value, hour);
+            }
+            for (int text = 0; text < TEXTS_A_DESK; text++) {
+                text(desk, model, random);
+            }
         }
+    }
+
+    private static void text(Desk desk, Model model, Random random) {
+        String text = question(random);
+        desk.write(text);
+        model.clearText();
+        for (char c : text.toCharArray()) {
+            model.type(c);
+        }
+        Check.due("errorAt of " + text, model.errorAt(), desk.errorAt());
+        int from = random.nextInt(41);
+        int to = from + random.nextInt(41 - from);
+        String want = Check.outcome(() -> model.ask(from, to));
+        Check.due(text + " by its tree", want, Check.outcome(() -> desk.ask(from, to)));
+        Check.due(text + " by its codes", want, Check.outcome(() -> desk.askByCodes(from, to)));
     }
 
     /** A text, mostly a question, at times cut or with another char in it. */
