@@ -527,7 +527,7 @@ public final class Pagerloom {
                 return;
             }
             int end = Math.min(ahead[to + 1], count);
-            for (int i = Math.max(0, ahead[from]); i < end; i++) {
+            for (int i = Math.max(0, ahead[from]); i < end && i < order.length; i++) {
                 int log = order[i];
                 if (isIn(log, 0, MOST_LOGS - 1) && toldIn[log] <= toldBy && picks < MOST_LOGS) {
                     picked[picks] = log;
@@ -964,7 +964,7 @@ public final class Pagerloom {
             }
             high--;
             int choiceAt = starts[high] + AGGREGATE_CODES;
-            if (isAggregate(pile[high]) && isIn(choiceAt, 1, size)) {
+            if (isAggregate(pile[high]) && choiceAt <= size && isIn(choiceAt, 1, codes.length)) {
                 codes[choiceAt - 1] = size - choiceAt;
             }
         }

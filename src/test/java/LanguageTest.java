@@ -1,4 +1,3 @@
-import java.io.DataInputStream;
 import java.io.IOException;
 import java.lang.management.ManagementFactory;
 import java.lang.reflect.Constructor;
@@ -101,40 +100,15 @@ public final class LanguageTest {
                 inside == Pagerloom.class || Modifier.isStatic(modifiers) && !Modifier.isPublic(modifiers));
     }
 
-    /** Reads the pool of names of a class file; every method of others must be in the library. */
+    /** Every field or method of others that the class names must be in the library. */
     private static void names(Class<?> inside) throws IOException {
-        try (DataInputStream in = new DataInputStream(
-                inside.getResourceAsStream(inside.getName() + ".class"))) {
-            in.skipBytes(8);
-            int count = in.readUnsignedShort();
-            int[][] refs = new int[count][];
-            String[] texts = new String[count];
-            for (int i = 1; i < count; i++) {
-                int tag = in.readUnsignedByte();
-                Check.due(inside + " calls no code made at run time", false, tag == 18 || tag == 17);
-                if (tag == 1) {
-                    texts[i] = in.readUTF();
-                } else if (tag == 5 || tag == 6) {
-                    in.skipBytes(8);
-                    i++;
-                } else if (tag == 7 || tag == 8) {
-                    refs[i] = new int[] {tag, in.readUnsignedShort()};
-                } else if (tag == 3 || tag == 4) {
-                    in.skipBytes(4);
-                } else if (tag >= 9 && tag <= 12) {
-                    refs[i] = new int[] {tag, in.readUnsignedShort(), in.readUnsignedShort()};
-                } else {
-                    Check.due(inside + " has a known tag " + tag, true, false);
-                }
-            }
-            for (int[] ref : refs) {
-                if (ref != null && (ref[0] == 9 || ref[0] == 10 || ref[0] == 11)) {
-                    String owner = texts[refs[ref[1]][1]];
-                    String name = owner + "." + texts[refs[ref[2]][1]];
-                    boolean isOwn = owner.startsWith("Pagerloom") || owner.startsWith("[LPagerloom");
-                    Check.due(inside + " may name " + name, true, isOwn || LIBRARY.contains(name));
-                }
-            }
+        ClassFile file = new ClassFile(inside);
+        for (String name : file.named) {
+            boolean isOwn = name.startsWith("Pagerloom") || name.startsWith("[LPagerloom");
+            Check.due(inside + " may name " + name, true, isOwn || LIBRARY.contains(name));
+        }
+        for (int floating : new int[] {4, 6}) {
+            Check.due(inside + " has constants of the tag " + floating, false, file.tags.get(floating));
         }
     }
 
